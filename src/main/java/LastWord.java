@@ -15,6 +15,7 @@ public final class LastWord {
     private static final int MOST_WAYS = 27;
     private static final int MOST_MARKS = 4;
     private static final int MOST_ROWS_OF_QUESTIONS = 64;
+    private static final int MOST_ACTS = 7;
     private static final int MOST_SEED = 9999;
     private static final int MOST_WORTH = 9999;
     private static final int LAST_FORESEEN = 6;
@@ -41,21 +42,19 @@ public final class LastWord {
     private final char[] tape = new char[MOST_SIGNS];
     private int signs = 0;
     private final Reader reader = new Reader(tape);
-    private final Told now = new Told();
+    private final Told now = new Told(new Village());
     private final Told[] marks = new Told[MOST_MARKS];
     private final Plan plan = new Plan(now);
     private final Odds foresight = new Odds(now, plan);
     private final Century chronicle = new Century(now, plan);
     private final Judge judge = new Judge(now, plan);
-    private final Ratio ratio = new Ratio();
     private final int[] firstRow = new int[MOST_WAYS];
     private final int[] keptQuestions = new int[MOST_SPRINGS];
 
     public LastWord() {
         for (int i = 0; i < MOST_MARKS; i++) {
-            marks[i] = new Told();
+            marks[i] = new Told(now.village);
         }
-        now.beginWith(new Village());
         plan.forgetAll();
     }
 
@@ -115,12 +114,14 @@ public final class LastWord {
         if (!isScene(spring, sort, stands)) {
             return NONE;
         }
+        plan.solveFrom(spring);
         return ahead ? plan.choiceOf(spring, sort, stands) : plan.plainChoice(spring, sort, 0, stands);
     }
 
     public long value(int spring, int sort, int stands, int what) throws NoSuchElementException {
         need(isScene(spring, sort, stands) && isPart(what));
-        return ratio.part(plan.valueOf(spring, sort, stands), UNIT, what);
+        plan.solveFrom(spring);
+        return lowestTerms(plan.valueOf(spring, sort, stands), UNIT, what);
     }
 
     public boolean ask(int spring, int thing) {
@@ -149,14 +150,16 @@ public final class LastWord {
 
     public long odds(int spring, int stands, int what) throws NoSuchElementException {
         need(isForeseen(spring) && now.village.canStand(stands) && isPart(what));
+        plan.solveFrom(0);
         foresight.passAheadOf(spring + 1);
-        return ratio.part(foresight.oddsOf(stands), WHOLE, what);
+        return lowestTerms(foresight.oddsOf(stands), WHOLE, what);
     }
 
     public long stir(int spring, int what) throws NoSuchElementException {
         need(isForeseen(spring) && isPart(what));
+        plan.solveFrom(0);
         foresight.passAheadOf(spring + 1);
-        return ratio.part(foresight.stirred(), WHOLE, what);
+        return lowestTerms(foresight.stirred(), WHOLE, what);
     }
 
     public int settled(int stands) {
@@ -164,6 +167,7 @@ public final class LastWord {
         if (!v.canStand(stands)) {
             return NONE;
         }
+        plan.solveFrom(0);
         for (int spring = 0; spring < v.springs; spring++) {
             if (wouldStir(spring, stands)) {
                 return 0;
@@ -174,36 +178,35 @@ public final class LastWord {
 
     public long price(int spring, int sort, int stands, int then, int what) throws NoSuchElementException {
         need(isFreeAct(spring, sort, stands, then) && isPart(what));
-        return ratio.part(priceOf(spring, sort, stands, then), UNIT, what);
+        plan.solveFrom(spring);
+        return lowestTerms(priceOf(spring, sort, stands, then), UNIT, what);
     }
 
     public long gain(int spring, int sort, int stands, int then, int other, int age, int what)
             throws NoSuchElementException {
         need(isFreeAct(spring, sort, stands, then) && isElder(other, age) && isPart(what));
+        plan.solveFrom(spring);
         int hers = plan.choiceOf(spring, sort, stands);
-        return ratio.part(gainOf(spring, hers, then, other, age), UNIT, what);
+        return lowestTerms(gainOf(spring, hers, then, other, age), UNIT, what);
     }
 
     public long lets(int spring, int sort, int stands, int then, int other, int age, int what)
             throws NoSuchElementException {
         need(isFreeAct(spring, sort, stands, then) && isElder(other, age) && isPart(what));
+        plan.solveFrom(spring);
         int hers = plan.choiceOf(spring, sort, stands);
         long left = gainOf(spring, hers, then, other, age) - priceOf(spring, sort, stands, then);
-        return ratio.part(left, UNIT, what);
+        return lowestTerms(left, UNIT, what);
     }
 
     public long present(int spring, int sort, int stands, int what) throws NoSuchElementException {
         need(isScene(spring, sort, stands) && what >= 0 && what <= 4);
         need(!now.isPledged(spring) && now.village.life > 1);
+        plan.solveFrom(spring);
+        now.gatherActs(spring, stands);
         Present best = new Present();
-        offerAct(best, spring, sort, stands, stands);
-        for (int thing = 0; thing < now.village.things; thing++) {
-            for (int state = 0; state < now.village.states[thing]; state++) {
-                int then = Village.changed(stands, thing, state);
-                if (then != stands && now.allows(spring, stands, thing, state)) {
-                    offerAct(best, spring, sort, stands, then);
-                }
-            }
+        for (int act = 0; act < now.actCount; act++) {
+            offerAct(best, spring, sort, stands, now.acts[act]);
         }
         switch (what) {
             case 0:
@@ -213,13 +216,14 @@ public final class LastWord {
             case 2:
                 return best.age;
             default:
-                return ratio.part(best.left, UNIT, what - 3);
+                return lowestTerms(best.left, UNIT, what - 3);
         }
     }
 
     public long hopes(int spring, int sort, int what) throws NoSuchElementException {
         need(isForeseen(spring) && now.village.hasSort(sort) && isPart(what));
-        return ratio.part(foresight.hopesOf(spring, sort), WHOLE * UNIT, what);
+        plan.solveFrom(0);
+        return lowestTerms(foresight.hopesOf(spring, sort), WHOLE * UNIT, what);
     }
 
     public long vow(int spring, int sort, int what) throws NoSuchElementException {
@@ -240,18 +244,18 @@ public final class LastWord {
             }
         }
         setPledge(spring, keptThing, keptState);
-        return what == 0 ? best : ratio.part(most - without, WHOLE * UNIT, what - 1);
+        return what == 0 ? best : lowestTerms(most - without, WHOLE * UNIT, what - 1);
     }
 
     public long bind(int thing, int spring, int sort, int stands, int what) throws NoSuchElementException {
         need(now.village.hasThing(thing) && isScene(spring, sort, stands) && isPart(what));
         boolean kept = now.ofStone[thing];
         setStone(thing, true);
-        long bound = plan.valueOf(spring, sort, stands);
+        long bound = valueAnew(spring, sort, stands);
         setStone(thing, false);
-        long loose = plan.valueOf(spring, sort, stands);
+        long loose = valueAnew(spring, sort, stands);
         setStone(thing, kept);
-        return ratio.part(bound - loose, UNIT, what);
+        return lowestTerms(bound - loose, UNIT, what);
     }
 
     public long order(int a, int b, int spring, int sort, int stands, int what) throws NoSuchElementException {
@@ -262,13 +266,13 @@ public final class LastWord {
         int keptSecond = now.question[spring + 1];
         setQuestion(spring, a);
         setQuestion(spring + 1, b);
-        long straight = plan.valueOf(spring, sort, stands);
+        long straight = valueAnew(spring, sort, stands);
         setQuestion(spring, b);
         setQuestion(spring + 1, a);
-        long turned = plan.valueOf(spring, sort, stands);
+        long turned = valueAnew(spring, sort, stands);
         setQuestion(spring, keptFirst);
         setQuestion(spring + 1, keptSecond);
-        return ratio.part(straight - turned, UNIT, what);
+        return lowestTerms(straight - turned, UNIT, what);
     }
 
     public int century(int seed, int rule, int spring, int what) throws NoSuchElementException {
@@ -365,7 +369,7 @@ public final class LastWord {
         long most = 0;
         for (int row = 0; row < rows; row++) {
             setQuestions(n, row);
-            long got = plan.valueOf(0, sort, v.startStands());
+            long got = valueAnew(0, sort, v.startStands());
             if (best == NONE || got > most) {
                 best = row;
                 most = got;
@@ -386,6 +390,7 @@ public final class LastWord {
 
     public long judged(int what) throws NoSuchElementException {
         need(what >= 0 && what <= 5 && now.village.sorts > 0);
+        plan.solveFrom(0);
         judge.hear();
         switch (what) {
             case 0:
@@ -397,11 +402,12 @@ public final class LastWord {
             case 3:
                 return judge.didAsAhead();
             default:
-                return ratio.part(judge.likelyAbove(), judge.likelyBelow(), what - 4);
+                return lowestTerms(judge.likelyAbove(), judge.likelyBelow(), what - 4);
         }
     }
 
     public int rowFares(int spring, boolean loss) throws NoSuchElementException {
+        plan.solveFrom(0);
         judge.hear();
         need(spring >= 0 && spring < judge.good && now.rowSort[spring] != NONE);
         return loss ? judge.lossOf(spring) : judge.faresOf(spring);
@@ -409,6 +415,7 @@ public final class LastWord {
 
     public long when(int sort, int what) throws NoSuchElementException {
         need(now.village.hasSort(sort) && what >= 0 && what <= 2);
+        plan.solveFrom(0);
         int best = NONE;
         long most = 0;
         for (int spring = 0; spring <= LAST_FORESEEN; spring++) {
@@ -421,7 +428,7 @@ public final class LastWord {
             }
         }
         need(best != NONE);
-        return what == 0 ? best : ratio.part(most, WHOLE * UNIT, what - 1);
+        return what == 0 ? best : lowestTerms(most, WHOLE * UNIT, what - 1);
     }
 
     public boolean mark(int mark, boolean back) {
@@ -474,6 +481,21 @@ public final class LastWord {
         if (!asTold) {
             throw new NoSuchElementException("there is no such thing to tell of");
         }
+    }
+
+    /** what 0: above, else below, of a fraction whose part below is above 0. */
+    private static long lowestTerms(long above, long below, int what) {
+        long divisor = below;
+        long rest = Math.abs(above);
+        for (int i = 0; i < 200 && rest != 0; i++) {
+            long next = divisor % rest;
+            divisor = rest;
+            rest = next;
+        }
+        if (divisor < 1) {
+            return 0;
+        }
+        return what == 0 ? above / divisor : below / divisor;
     }
 
     private void takeSigns(long bytes) {
@@ -544,6 +566,11 @@ public final class LastWord {
         return false;
     }
 
+    private long valueAnew(int spring, int sort, int stands) {
+        plan.solveFrom(spring);
+        return plan.valueOf(spring, sort, stands);
+    }
+
     private long priceOf(int spring, int sort, int stands, int then) {
         return plan.valueOf(spring, sort, stands) - plan.valueWith(spring, sort, stands, then);
     }
@@ -564,6 +591,7 @@ public final class LastWord {
 
     private long hopesUnder(int spring, int sort, int thing, int state) {
         setPledge(spring, thing, state);
+        plan.solveFrom(0);
         return foresight.hopesOf(spring, sort);
     }
 
@@ -613,6 +641,7 @@ public final class LastWord {
         int rows = rowsOfQuestions(n);
         for (int row = 0; row < rows; row++) {
             setQuestions(n, row);
+            plan.solveFrom(0);
             int stands = standsBehind(n);
             if (firstRow[stands] == NONE) {
                 firstRow[stands] = row;
@@ -819,12 +848,10 @@ public final class LastWord {
             return comes[spring] == sort ? SIX : 0;
         }
 
+        /** The chances of the sorts are six together: where nothing is told somebody comes, if there is a sort. */
         int chanceOfNobody(int spring) {
-            int rest = SIX;
-            for (int sort = 0; sort < sorts; sort++) {
-                rest -= chanceIn(spring, sort);
-            }
-            return rest;
+            boolean nobody = comes[spring] == UNTOLD ? sorts == 0 : comes[spring] == NONE;
+            return nobody ? SIX : 0;
         }
 
         /** The thing whose state differs, NONE if none does. */
@@ -866,7 +893,7 @@ public final class LastWord {
 
     /** What holds now, and what a mark keeps of it. */
     private static final class Told {
-        Village village = new Village();
+        Village village;
         final int[] question = new int[MOST_SPRINGS];
         final int[] pledgeThing = new int[MOST_SPRINGS];
         final int[] pledgeState = new int[MOST_SPRINGS];
@@ -876,13 +903,24 @@ public final class LastWord {
         final int[] rowState = new int[MOST_SPRINGS];
         int rows = 0;
         boolean isLaid = false;
+        final int[] acts = new int[MOST_ACTS];
+        final int[] actCosts = new int[MOST_ACTS];
+        int actCount = 0;
+
+        Told(Village village) {
+            this.village = village;
+            Arrays.fill(question, NONE);
+            Arrays.fill(pledgeThing, NONE);
+        }
 
         void beginWith(Village read) {
             village = read;
             Arrays.fill(question, NONE);
             Arrays.fill(pledgeThing, NONE);
             Arrays.fill(pledgeState, 0);
-            System.arraycopy(read.stone, 0, ofStone, 0, MOST_THINGS);
+            for (int thing = 0; thing < MOST_THINGS; thing++) {
+                ofStone[thing] = read.stone[thing];
+            }
             rows = 0;
         }
 
@@ -891,7 +929,9 @@ public final class LastWord {
             System.arraycopy(other.question, 0, question, 0, MOST_SPRINGS);
             System.arraycopy(other.pledgeThing, 0, pledgeThing, 0, MOST_SPRINGS);
             System.arraycopy(other.pledgeState, 0, pledgeState, 0, MOST_SPRINGS);
-            System.arraycopy(other.ofStone, 0, ofStone, 0, MOST_THINGS);
+            for (int thing = 0; thing < MOST_THINGS; thing++) {
+                ofStone[thing] = other.ofStone[thing];
+            }
             System.arraycopy(other.rowSort, 0, rowSort, 0, MOST_SPRINGS);
             System.arraycopy(other.rowThing, 0, rowThing, 0, MOST_SPRINGS);
             System.arraycopy(other.rowState, 0, rowState, 0, MOST_SPRINGS);
@@ -916,7 +956,24 @@ public final class LastWord {
             }
             boolean inQuestion = question[spring] == NONE || question[spring] == thing;
             boolean loose = !ofStone[thing] || at == village.start[thing];
-            return inQuestion && loose && !village.barred[Village.changed(stands, thing, state)];
+            return inQuestion && loose && !village.barred[stands + (state - at) * PLACES[thing]];
+        }
+
+        /** THE SAME, then what may be done by things and states: who finds the best one first keeps to the order. */
+        void gatherActs(int spring, int stands) {
+            acts[0] = stands;
+            actCosts[0] = 0;
+            actCount = 1;
+            for (int thing = 0; thing < village.things; thing++) {
+                for (int state = 0; state < village.states[thing]; state++) {
+                    int then = Village.changed(stands, thing, state);
+                    if (then != stands && actCount < MOST_ACTS && allows(spring, stands, thing, state)) {
+                        acts[actCount] = then;
+                        actCosts[actCount] = village.cost[thing];
+                        actCount++;
+                    }
+                }
+            }
         }
 
         /** Whether one act, or THE SAME, brings it to stand so. */
@@ -940,480 +997,126 @@ public final class LastWord {
         boolean isPledged(int spring) {
             return pledgeThing[spring] != NONE;
         }
-
-        int standsAsPledged(int spring, int stands) {
-            return standsIfDone(spring, stands, pledgeThing[spring], pledgeState[spring]);
-        }
     }
 
-    /** Reads the tape as a village, up to its first fault. */
-    private static final class Reader {
-        private static final String KEYWORDS = "thing states start cost stone sort worth chance spring"
-                + " is nobody bar life springs not and or age";
-        private static final int THING = 0;
-        private static final int STATES = 1;
-        private static final int START = 2;
-        private static final int COST = 3;
-        private static final int STONE = 4;
-        private static final int SORT = 5;
-        private static final int WORTH = 6;
-        private static final int CHANCE = 7;
-        private static final int SPRING = 8;
-        private static final int IS = 9;
-        private static final int NOBODY = 10;
-        private static final int BAR = 11;
-        private static final int LIFE = 12;
-        private static final int SPRINGS = 13;
-        private static final int NOT = 14;
-        private static final int AND = 15;
-        private static final int OR = 16;
-        private static final int AGE = 17;
-        private static final int NAME = 18;
-        private static final int NUMBER = 19;
-        private static final int SIGN = 20;
-        private static final int END = 21;
-        private static final int NO_TOKEN = 22;
+    /** The tokens of the tape, each as long as can be, and the end behind them. */
+    private static final class Tokens {
+        static final int THING = 0;
+        static final int STATES = 1;
+        static final int START = 2;
+        static final int COST = 3;
+        static final int STONE = 4;
+        static final int SORT = 5;
+        static final int WORTH = 6;
+        static final int CHANCE = 7;
+        static final int SPRING = 8;
+        static final int IS = 9;
+        static final int NOBODY = 10;
+        static final int BAR = 11;
+        static final int LIFE = 12;
+        static final int SPRINGS = 13;
+        static final int NOT = 14;
+        static final int AND = 15;
+        static final int OR = 16;
+        static final int AGE = 17;
+        static final int NAME = 18;
+        static final int NUMBER = 19;
+        static final int OPEN = 20;
+        static final int CLOSE = 21;
+        static final int LESS = 22;
+        static final int EQUAL = 23;
+        static final int PLUS = 24;
+        static final int MINUS = 25;
+        static final int TIMES = 26;
+        static final int STOP = 27;
+        static final int END = 28;
+        static final int NO_TOKEN = 29;
 
-        private static final int MISPLACED = 1;
-        private static final int UNKNOWN = 2;
-        private static final int AGAIN = 3;
-        private static final int AMISS = 4;
-        private static final int TOO_MANY = 5;
-        private static final int NOT_SIX = 6;
+        /** In the order of the numbers above, from THING on. */
+        private static final String KEYWORDS =
+                "thing states start cost stone sort worth chance spring is nobody bar life springs not and or age";
+
+        /** In the order of the numbers above, from OPEN on. */
+        private static final String SIGNS = "()<=+-*;";
 
         private static final int MOST_LETTERS = 8;
         private static final int MOST_DIGITS = 4;
-        private static final int MOST_AROUND = 5;
-        private static final int MOST_NUMBER = 9999;
 
         private final char[] text;
         private int length = 0;
-        private int place = 0;
-        private int end = 0;
-        private int token = END;
-        private char sign = ' ';
-        private int number = 0;
-        private int fault = 0;
-        private Village village = new Village();
-        private final long[] thingNames = new long[MOST_THINGS];
-        private final long[] sortNames = new long[MOST_SORTS];
-        private final boolean[] chanceTold = new boolean[MOST_SORTS];
-        private boolean lifeTold = false;
-        private boolean springsTold = false;
-        private boolean inWorth = false;
-        private final int[] steps = new int[MOST_SIGNS];
-        private int stepCount = 0;
+        final int[] kinds = new int[MOST_SIGNS + 1];
+        final int[] places = new int[MOST_SIGNS + 1];
+        /** Of a number what it is, of a word its letters. */
+        final long[] details = new long[MOST_SIGNS + 1];
+        int count = 0;
 
-        Reader(char[] text) {
+        Tokens(char[] text) {
             this.text = text;
         }
 
-        int readInto(Village empty, int signs) {
-            village = empty;
-            length = signs;
-            end = 0;
-            fault = 0;
-            lifeTold = false;
-            springsTold = false;
-            Arrays.fill(chanceTold, false);
-            advance();
-            boolean fine = true;
-            for (int i = 0; i <= MOST_SIGNS && fine && token != END; i++) {
-                fine = readSentence();
-            }
-            if (fine && village.sorts > 0 && chances() != SIX) {
-                refuse(NOT_SIX);
-            }
-            if (fault == 0) {
-                village.close();
-            }
-            return fault;
-        }
-
-        private int chances() {
-            int sum = 0;
-            for (int sort = 0; sort < village.sorts; sort++) {
-                sum += village.chance[sort];
-            }
-            return sum;
-        }
-
-        private boolean refuse(int kind) {
-            fault = kind + 16 * place;
-            return false;
-        }
-
-        private boolean readSentence() {
-            switch (token) {
-                case THING:
-                    return readThing();
-                case SORT:
-                    return readSort();
-                case CHANCE:
-                    return readChance();
-                case SPRING:
-                    return readSpring();
-                case BAR:
-                    return readBar();
-                case LIFE:
-                    return readLife();
-                case SPRINGS:
-                    return readSprings();
-                default:
-                    return refuse(MISPLACED);
-            }
-        }
-
-        private boolean readThing() {
-            int thing = village.things;
-            if (thing >= MOST_THINGS) {
-                return refuse(TOO_MANY);
-            }
-            advance();
-            if (!isNewName()) {
-                return false;
-            }
-            thingNames[thing] = packedWord();
-            advance();
-            if (!take(STATES) || !isNumber(2, MOST_STATES)) {
-                return false;
-            }
-            village.states[thing] = number;
-            advance();
-            if (!take(START) || !isNumber(0, village.states[thing] - 1)) {
-                return false;
-            }
-            village.start[thing] = number;
-            advance();
-            if (!take(COST) || !isNumber(0, 999)) {
-                return false;
-            }
-            village.cost[thing] = number;
-            advance();
-            if (token == STONE) {
-                village.stone[thing] = true;
-                advance();
-            }
-            village.things++;
-            return takeStop();
-        }
-
-        private boolean readSort() {
-            int sort = village.sorts;
-            if (sort >= MOST_SORTS) {
-                return refuse(TOO_MANY);
-            }
-            advance();
-            if (!isNewName()) {
-                return false;
-            }
-            sortNames[sort] = packedWord();
-            advance();
-            if (!take(WORTH) || !readFormula(true)) {
-                return false;
-            }
-            village.worth[sort] = new Formula(Arrays.copyOf(steps, stepCount));
-            village.sorts++;
-            return takeStop();
-        }
-
-        private boolean readChance() {
-            advance();
-            if (token != NAME) {
-                return refuse(MISPLACED);
-            }
-            int sort = findName(sortNames, village.sorts);
-            if (sort == NONE) {
-                return refuse(UNKNOWN);
-            }
-            if (chanceTold[sort]) {
-                return refuse(AGAIN);
-            }
-            chanceTold[sort] = true;
-            advance();
-            if (!isNumber(0, SIX)) {
-                return false;
-            }
-            village.chance[sort] = number;
-            advance();
-            return takeStop();
-        }
-
-        private boolean readSpring() {
-            advance();
-            if (!isNumber(0, MOST_SPRINGS - 1)) {
-                return false;
-            }
-            int spring = number;
-            if (village.comes[spring] != UNTOLD) {
-                return refuse(AGAIN);
-            }
-            advance();
-            if (!take(IS)) {
-                return false;
-            }
-            if (token != NOBODY && token != NAME) {
-                return refuse(MISPLACED);
-            }
-            int sort = token == NOBODY ? NONE : findName(sortNames, village.sorts);
-            if (token == NAME && sort == NONE) {
-                return refuse(UNKNOWN);
-            }
-            village.comes[spring] = sort;
-            advance();
-            return takeStop();
-        }
-
-        private boolean readBar() {
-            if (village.bars >= MOST_BARS) {
-                return refuse(TOO_MANY);
-            }
-            advance();
-            if (!readFormula(false)) {
-                return false;
-            }
-            village.bar[village.bars] = new Formula(Arrays.copyOf(steps, stepCount));
-            village.bars++;
-            return takeStop();
-        }
-
-        private boolean readLife() {
-            if (lifeTold) {
-                return refuse(AGAIN);
-            }
-            lifeTold = true;
-            advance();
-            if (!isNumber(1, MOST_LIFE)) {
-                return false;
-            }
-            village.life = number;
-            advance();
-            return takeStop();
-        }
-
-        private boolean readSprings() {
-            if (springsTold) {
-                return refuse(AGAIN);
-            }
-            springsTold = true;
-            advance();
-            if (!isNumber(1, MOST_SPRINGS)) {
-                return false;
-            }
-            village.springs = number;
-            advance();
-            return takeStop();
-        }
-
-        private boolean take(int keyword) {
-            if (token != keyword) {
-                return refuse(MISPLACED);
-            }
-            advance();
-            return true;
-        }
-
-        private boolean takeStop() {
-            if (!isSign(';')) {
-                return refuse(MISPLACED);
-            }
-            advance();
-            return true;
-        }
-
-        private boolean isSign(char wanted) {
-            return token == SIGN && sign == wanted;
-        }
-
-        private boolean isNumber(int least, int most) {
-            if (token != NUMBER) {
-                return refuse(MISPLACED);
-            }
-            return number >= least && number <= most || refuse(AMISS);
-        }
-
-        private boolean isNewName() {
-            if (token != NAME) {
-                return refuse(MISPLACED);
-            }
-            boolean known = findName(thingNames, village.things) != NONE
-                    || findName(sortNames, village.sorts) != NONE;
-            return !known || refuse(AGAIN);
-        }
-
-        private int findName(long[] names, int count) {
-            long word = packedWord();
-            for (int i = 0; i < count; i++) {
-                if (names[i] == word) {
-                    return i;
+        void split(int signs) {
+            length = Math.min(signs, text.length);
+            count = 0;
+            int end = 0;
+            for (int i = 0; i < length; i++) {
+                if (i >= end && !isBlank(text[i])) {
+                    end = readToken(i);
                 }
             }
-            return NONE;
+            add(END, length, 0L);
+        }
+
+        private void add(int kind, int place, long detail) {
+            if (count < kinds.length) {
+                kinds[count] = kind;
+                places[count] = place;
+                details[count] = detail;
+                count++;
+            }
+        }
+
+        private int readToken(int place) {
+            if (isLetter(text[place])) {
+                return readWord(place);
+            }
+            if (isDigit(text[place])) {
+                return readNumber(place);
+            }
+            int sign = SIGNS.indexOf(text[place]);
+            add(sign < 0 ? NO_TOKEN : OPEN + sign, place, 0L);
+            return place + 1;
         }
 
         /** Eight letters of five bits each fit in a long, so that no text need be made of a name. */
-        private long packedWord() {
-            long word = 0;
-            for (int i = place; i < end && i < length; i++) {
-                word = word * 32 + (text[i] - 'a' + 1);
-            }
-            return word;
-        }
-
-        private boolean readFormula(boolean ofWorth) {
-            inWorth = ofWorth;
-            stepCount = 0;
-            return readTests(0);
-        }
-
-        private void addStep(int kind, int detail) {
-            if (stepCount < MOST_SIGNS) {
-                steps[stepCount] = kind + Formula.KINDS * detail;
-                stepCount++;
-            }
-        }
-
-        /** around: how many not and ( ) lie around what is read here; a PART refuses what would go deeper. */
-        private boolean readTests(int around) {
-            boolean fine = readTest(around);
-            for (int i = 0; i < MOST_SIGNS && fine && (token == AND || token == OR); i++) {
-                int kind = token == AND ? Formula.AND : Formula.OR;
-                advance();
-                fine = readTest(around);
-                addStep(kind, 0);
-            }
-            return fine;
-        }
-
-        private boolean readTest(int around) {
-            if (!readSum(around)) {
-                return false;
-            }
-            if (!isSign('<') && !isSign('=')) {
-                return true;
-            }
-            int kind = sign == '<' ? Formula.LESS : Formula.EQUAL;
-            advance();
-            boolean fine = readSum(around);
-            addStep(kind, 0);
-            return fine;
-        }
-
-        private boolean readSum(int around) {
-            boolean fine = readProduct(around);
-            for (int i = 0; i < MOST_SIGNS && fine && (isSign('+') || isSign('-')); i++) {
-                int kind = sign == '+' ? Formula.PLUS : Formula.MINUS;
-                advance();
-                fine = readProduct(around);
-                addStep(kind, 0);
-            }
-            return fine;
-        }
-
-        private boolean readProduct(int around) {
-            boolean fine = readPart(around);
-            for (int i = 0; i < MOST_SIGNS && fine && isSign('*'); i++) {
-                advance();
-                fine = readPart(around);
-                addStep(Formula.TIMES, 0);
-            }
-            return fine;
-        }
-
-        private boolean readPart(int around) {
-            if (!beginsPart()) {
-                return refuse(MISPLACED);
-            }
-            int thing = token == NAME ? findName(thingNames, village.things) : NONE;
-            if (token == NAME && thing == NONE) {
-                return refuse(UNKNOWN);
-            }
-            if (around >= MOST_AROUND) {
-                return refuse(TOO_MANY);
-            }
-            if (token == NOT) {
-                advance();
-                boolean fine = readPart(around + 1);
-                addStep(Formula.NOT, 0);
-                return fine;
-            }
-            if (token == SIGN) {
-                advance();
-                return readTests(around + 1) && takeClosing();
-            }
-            addLeaf(thing);
-            advance();
-            return true;
-        }
-
-        private boolean beginsPart() {
-            boolean fact = inWorth && (token == AGE || token == SPRING);
-            return fact || token == NUMBER || token == NAME || token == NOT || isSign('(');
-        }
-
-        private void addLeaf(int thing) {
-            if (token == NUMBER) {
-                addStep(Formula.NUMBER, number);
-            } else if (token == NAME) {
-                addStep(Formula.STATE, thing);
-            } else {
-                addStep(token == AGE ? Formula.AGE : Formula.SPRING, 0);
-            }
-        }
-
-        private boolean takeClosing() {
-            if (!isSign(')')) {
-                return refuse(MISPLACED);
-            }
-            advance();
-            return true;
-        }
-
-        private void advance() {
-            place = end;
-            for (int i = end; i < length && isBlank(text[i]); i++) {
-                place = i + 1;
-            }
-            if (place >= length) {
-                place = length;
-                end = length;
-                token = END;
-            } else if (isLetter(text[place])) {
-                readWord();
-            } else if (isDigit(text[place])) {
-                readNumber();
-            } else {
-                sign = text[place];
-                end = place + 1;
-                token = "()<=+-*;".indexOf(sign) >= 0 ? SIGN : NO_TOKEN;
-            }
-        }
-
-        private void readWord() {
-            end = place;
+        private int readWord(int place) {
+            int end = place;
+            long letters = 0;
             for (int i = place; i < length && isLetter(text[i]); i++) {
                 end = i + 1;
+                letters = letters * 32 + (text[i] - 'a' + 1);
             }
-            token = end - place > MOST_LETTERS ? NO_TOKEN : keyword();
+            add(end - place > MOST_LETTERS ? NO_TOKEN : keyword(place, end), place, letters);
+            return end;
         }
 
-        private void readNumber() {
-            end = place;
-            number = 0;
+        private int readNumber(int place) {
+            int end = place;
+            long number = 0;
             for (int i = place; i < length && isDigit(text[i]); i++) {
                 end = i + 1;
-                number = Math.min(MOST_NUMBER, number * 10 + (text[i] - '0'));
+                number = number * 10 + (text[i] - '0');
             }
-            token = end - place > MOST_DIGITS ? NO_TOKEN : NUMBER;
+            add(end - place > MOST_DIGITS ? NO_TOKEN : NUMBER, place, number);
+            return end;
         }
 
-        private int keyword() {
-            int keyword = 0;
+        private int keyword(int place, int end) {
+            int keyword = THING;
             int from = 0;
             int signs = KEYWORDS.length();
             for (int i = 0; i <= signs; i++) {
                 if (i == signs || KEYWORDS.charAt(i) == ' ') {
-                    if (isKeyword(from, i)) {
+                    if (i - from == end - place && isKeyword(place, from, i)) {
                         return keyword;
                     }
                     keyword++;
@@ -1423,10 +1126,7 @@ public final class LastWord {
             return NAME;
         }
 
-        private boolean isKeyword(int from, int to) {
-            if (to - from != end - place) {
-                return false;
-            }
+        private boolean isKeyword(int place, int from, int to) {
             for (int i = from; i < to; i++) {
                 if (KEYWORDS.charAt(i) != text[place + i - from]) {
                     return false;
@@ -1445,6 +1145,385 @@ public final class LastWord {
 
         private static boolean isDigit(char c) {
             return c >= '0' && c <= '9';
+        }
+    }
+
+    /** Reads the tape as a village, up to its first fault. */
+    private static final class Reader {
+        private static final int MISPLACED = 1;
+        private static final int UNKNOWN = 2;
+        private static final int AGAIN = 3;
+        private static final int AMISS = 4;
+        private static final int TOO_MANY = 5;
+        private static final int NOT_SIX = 6;
+        private static final int MOST_AROUND = 5;
+
+        private final Tokens tokens;
+        private int at = 0;
+        private int token = Tokens.END;
+        private int fault = 0;
+        private Village village = new Village();
+        private final long[] thingNames = new long[MOST_THINGS];
+        private final long[] sortNames = new long[MOST_SORTS];
+        private final boolean[] chanceTold = new boolean[MOST_SORTS];
+        private boolean lifeTold = false;
+        private boolean springsTold = false;
+        private boolean inWorth = false;
+        private final int[] steps = new int[MOST_SIGNS];
+        private int stepCount = 0;
+
+        Reader(char[] text) {
+            tokens = new Tokens(text);
+        }
+
+        int readInto(Village empty, int signs) {
+            begin(empty);
+            tokens.split(signs);
+            token = tokens.kinds[0];
+            boolean fine = true;
+            for (int i = 0; i < tokens.count && fine && token != Tokens.END; i++) {
+                fine = readSentence();
+            }
+            if (fine && village.sorts > 0 && chances() != SIX) {
+                refuse(NOT_SIX);
+            }
+            if (fault == 0) {
+                village.close();
+            }
+            return fault;
+        }
+
+        private void begin(Village empty) {
+            village = empty;
+            at = 0;
+            fault = 0;
+            lifeTold = false;
+            springsTold = false;
+            for (int sort = 0; sort < MOST_SORTS; sort++) {
+                chanceTold[sort] = false;
+            }
+        }
+
+        private int chances() {
+            int sum = 0;
+            for (int sort = 0; sort < village.sorts; sort++) {
+                sum += village.chance[sort];
+            }
+            return sum;
+        }
+
+        private boolean refuse(int kind) {
+            fault = kind + 16 * tokens.places[at];
+            return false;
+        }
+
+        /** The end stays the token for good once it is reached. */
+        private void advance() {
+            if (at + 1 < tokens.count) {
+                at++;
+            }
+            token = tokens.kinds[at];
+        }
+
+        private int number() {
+            return (int) tokens.details[at];
+        }
+
+        private boolean readSentence() {
+            switch (token) {
+                case Tokens.THING:
+                    return readThing();
+                case Tokens.SORT:
+                    return readSort();
+                case Tokens.CHANCE:
+                    return readChance();
+                case Tokens.SPRING:
+                    return readSpring();
+                case Tokens.BAR:
+                    return readBar();
+                case Tokens.LIFE:
+                    return readLife();
+                case Tokens.SPRINGS:
+                    return readSprings();
+                default:
+                    return refuse(MISPLACED);
+            }
+        }
+
+        private boolean readThing() {
+            int thing = village.things;
+            if (thing >= MOST_THINGS) {
+                return refuse(TOO_MANY);
+            }
+            advance();
+            if (!isNewName()) {
+                return false;
+            }
+            thingNames[thing] = tokens.details[at];
+            advance();
+            if (!take(Tokens.STATES) || !isNumber(2, MOST_STATES)) {
+                return false;
+            }
+            village.states[thing] = number();
+            advance();
+            if (!take(Tokens.START) || !isNumber(0, village.states[thing] - 1)) {
+                return false;
+            }
+            village.start[thing] = number();
+            advance();
+            if (!take(Tokens.COST) || !isNumber(0, 999)) {
+                return false;
+            }
+            village.cost[thing] = number();
+            advance();
+            if (token == Tokens.STONE) {
+                village.stone[thing] = true;
+                advance();
+            }
+            village.things++;
+            return take(Tokens.STOP);
+        }
+
+        private boolean readSort() {
+            int sort = village.sorts;
+            if (sort >= MOST_SORTS) {
+                return refuse(TOO_MANY);
+            }
+            advance();
+            if (!isNewName()) {
+                return false;
+            }
+            sortNames[sort] = tokens.details[at];
+            advance();
+            if (!take(Tokens.WORTH) || !readFormula(true)) {
+                return false;
+            }
+            village.worth[sort] = new Formula(Arrays.copyOf(steps, stepCount));
+            village.sorts++;
+            return take(Tokens.STOP);
+        }
+
+        private boolean readChance() {
+            advance();
+            if (token != Tokens.NAME) {
+                return refuse(MISPLACED);
+            }
+            int sort = findName(sortNames, village.sorts);
+            if (sort == NONE) {
+                return refuse(UNKNOWN);
+            }
+            if (chanceTold[sort]) {
+                return refuse(AGAIN);
+            }
+            chanceTold[sort] = true;
+            advance();
+            if (!isNumber(0, SIX)) {
+                return false;
+            }
+            village.chance[sort] = number();
+            advance();
+            return take(Tokens.STOP);
+        }
+
+        private boolean readSpring() {
+            advance();
+            if (!isNumber(0, MOST_SPRINGS - 1)) {
+                return false;
+            }
+            int spring = number();
+            if (village.comes[spring] != UNTOLD) {
+                return refuse(AGAIN);
+            }
+            advance();
+            if (!take(Tokens.IS)) {
+                return false;
+            }
+            if (token != Tokens.NOBODY && token != Tokens.NAME) {
+                return refuse(MISPLACED);
+            }
+            int sort = token == Tokens.NOBODY ? NONE : findName(sortNames, village.sorts);
+            if (token == Tokens.NAME && sort == NONE) {
+                return refuse(UNKNOWN);
+            }
+            village.comes[spring] = sort;
+            advance();
+            return take(Tokens.STOP);
+        }
+
+        private boolean readBar() {
+            if (village.bars >= MOST_BARS) {
+                return refuse(TOO_MANY);
+            }
+            advance();
+            if (!readFormula(false)) {
+                return false;
+            }
+            village.bar[village.bars] = new Formula(Arrays.copyOf(steps, stepCount));
+            village.bars++;
+            return take(Tokens.STOP);
+        }
+
+        private boolean readLife() {
+            if (lifeTold) {
+                return refuse(AGAIN);
+            }
+            lifeTold = true;
+            advance();
+            if (!isNumber(1, MOST_LIFE)) {
+                return false;
+            }
+            village.life = number();
+            advance();
+            return take(Tokens.STOP);
+        }
+
+        private boolean readSprings() {
+            if (springsTold) {
+                return refuse(AGAIN);
+            }
+            springsTold = true;
+            advance();
+            if (!isNumber(1, MOST_SPRINGS)) {
+                return false;
+            }
+            village.springs = number();
+            advance();
+            return take(Tokens.STOP);
+        }
+
+        private boolean take(int kind) {
+            if (token != kind) {
+                return refuse(MISPLACED);
+            }
+            advance();
+            return true;
+        }
+
+        private boolean isNumber(int least, int most) {
+            if (token != Tokens.NUMBER) {
+                return refuse(MISPLACED);
+            }
+            return number() >= least && number() <= most || refuse(AMISS);
+        }
+
+        private boolean isNewName() {
+            if (token != Tokens.NAME) {
+                return refuse(MISPLACED);
+            }
+            boolean known = findName(thingNames, village.things) != NONE
+                    || findName(sortNames, village.sorts) != NONE;
+            return !known || refuse(AGAIN);
+        }
+
+        private int findName(long[] names, int count) {
+            for (int i = 0; i < count; i++) {
+                if (names[i] == tokens.details[at]) {
+                    return i;
+                }
+            }
+            return NONE;
+        }
+
+        private boolean readFormula(boolean ofWorth) {
+            inWorth = ofWorth;
+            stepCount = 0;
+            return readTests(0);
+        }
+
+        private void addStep(int kind, int detail) {
+            if (stepCount < steps.length) {
+                steps[stepCount] = kind + Formula.KINDS * detail;
+                stepCount++;
+            }
+        }
+
+        /** around: how many not and ( ) lie around what is read here; a PART refuses what would go deeper. */
+        private boolean readTests(int around) {
+            boolean fine = readTest(around);
+            for (int i = 0; i < MOST_SIGNS && fine && (token == Tokens.AND || token == Tokens.OR); i++) {
+                int kind = token == Tokens.AND ? Formula.AND : Formula.OR;
+                advance();
+                fine = readTest(around);
+                addStep(kind, 0);
+            }
+            return fine;
+        }
+
+        private boolean readTest(int around) {
+            if (!readSum(around)) {
+                return false;
+            }
+            if (token != Tokens.LESS && token != Tokens.EQUAL) {
+                return true;
+            }
+            int kind = token == Tokens.LESS ? Formula.LESS : Formula.EQUAL;
+            advance();
+            boolean fine = readSum(around);
+            addStep(kind, 0);
+            return fine;
+        }
+
+        private boolean readSum(int around) {
+            boolean fine = readProduct(around);
+            for (int i = 0; i < MOST_SIGNS && fine && (token == Tokens.PLUS || token == Tokens.MINUS); i++) {
+                int kind = token == Tokens.PLUS ? Formula.PLUS : Formula.MINUS;
+                advance();
+                fine = readProduct(around);
+                addStep(kind, 0);
+            }
+            return fine;
+        }
+
+        private boolean readProduct(int around) {
+            boolean fine = readPart(around);
+            for (int i = 0; i < MOST_SIGNS && fine && token == Tokens.TIMES; i++) {
+                advance();
+                fine = readPart(around);
+                addStep(Formula.TIMES, 0);
+            }
+            return fine;
+        }
+
+        private boolean readPart(int around) {
+            if (!beginsPart()) {
+                return refuse(MISPLACED);
+            }
+            int thing = token == Tokens.NAME ? findName(thingNames, village.things) : NONE;
+            if (token == Tokens.NAME && thing == NONE) {
+                return refuse(UNKNOWN);
+            }
+            if (around >= MOST_AROUND) {
+                return refuse(TOO_MANY);
+            }
+            if (token == Tokens.NOT) {
+                advance();
+                boolean fine = readPart(around + 1);
+                addStep(Formula.NOT, 0);
+                return fine;
+            }
+            if (token == Tokens.OPEN) {
+                advance();
+                return readTests(around + 1) && take(Tokens.CLOSE);
+            }
+            addLeaf(thing);
+            advance();
+            return true;
+        }
+
+        private boolean beginsPart() {
+            boolean fact = inWorth && (token == Tokens.AGE || token == Tokens.SPRING);
+            boolean leaf = fact || token == Tokens.NUMBER || token == Tokens.NAME;
+            return leaf || token == Tokens.NOT || token == Tokens.OPEN;
+        }
+
+        private void addLeaf(int thing) {
+            if (token == Tokens.NUMBER) {
+                addStep(Formula.NUMBER, number());
+            } else if (token == Tokens.NAME) {
+                addStep(Formula.STATE, thing);
+            } else {
+                addStep(token == Tokens.AGE ? Formula.AGE : Formula.SPRING, 0);
+            }
         }
     }
 
@@ -1467,6 +1546,7 @@ public final class LastWord {
             solvedFrom = now.village.springs;
         }
 
+        /** Worths do not hang on what may be done. */
         void forgetActs() {
             solvedFrom = now.village.springs;
         }
@@ -1476,15 +1556,30 @@ public final class LastWord {
             solvedFrom = Math.max(solvedFrom, Math.min(spring + 1, now.village.springs));
         }
 
+        /** To be called ahead of everything below that tells of this spring or a later one. */
+        void solveFrom(int spring) {
+            for (int s = worthsFrom - 1; s >= spring; s--) {
+                reckonWorths(s);
+            }
+            worthsFrom = Math.min(worthsFrom, spring);
+            for (int s = solvedFrom - 1; s >= spring; s--) {
+                sumUp(s);
+                choose(s);
+            }
+            solvedFrom = Math.min(solvedFrom, spring);
+        }
+
         int choiceOf(int spring, int sort, int stands) {
-            solveFrom(spring);
             return choices[choiceAt(spring, sort, stands)];
         }
 
         /** The likely worths of one of an age for the springs from this one on, if it stands so at its end. */
         long sumOf(int spring, int sort, int age, int stands) {
-            solveFrom(spring);
             return sums[at(spring, sort, age, stands)];
+        }
+
+        int worthAt(int spring, int sort, int age, int stands) {
+            return worths[at(spring, sort, age, stands)];
         }
 
         long valueWith(int spring, int sort, int stands, int then) {
@@ -1495,34 +1590,30 @@ public final class LastWord {
             return valueWith(spring, sort, stands, choiceOf(spring, sort, stands));
         }
 
-        int worthAt(int spring, int sort, int age, int stands) {
-            reckonWorthsFrom(spring);
-            return worths[at(spring, sort, age, stands)];
-        }
-
         int plainChoice(int spring, int sort, int age, int stands) {
-            clearScores();
+            beginScores(spring, stands);
             addScores(spring, sort, age);
-            return bestByScores(spring, stands);
+            return bestByScores();
         }
 
-        void clearScores() {
+        void beginScores(int spring, int stands) {
+            now.gatherActs(spring, stands);
             Arrays.fill(scores, 0L);
         }
 
-        /** Adds what each way to stand, for good, is worth to one of an age in the springs left to her. */
+        /** Adds what each act is worth to one of an age if it stands so for all the springs left to her. */
         void addScores(int spring, int sort, int age) {
-            Village v = now.village;
-            int left = Math.min(v.life - age, v.springs - spring);
+            int left = Math.min(now.village.life - age, now.village.springs - spring);
             for (int i = 0; i < left; i++) {
-                for (int w = 0; w < v.ways; w++) {
-                    scores[v.way[w]] += worthAt(spring + i, sort, age + i, v.way[w]) * UNIT;
+                for (int act = 0; act < now.actCount; act++) {
+                    int then = now.acts[act];
+                    scores[then] += worthAt(spring + i, sort, age + i, then) * UNIT;
                 }
             }
         }
 
-        int bestByScores(int spring, int stands) {
-            return bestAct(spring, stands, scores, 0);
+        int bestByScores() {
+            return bestAct(scores, 0);
         }
 
         private static int at(int spring, int sort, int age, int stands) {
@@ -1533,44 +1624,30 @@ public final class LastWord {
             return (spring * MOST_SORTS + sort) * MOST_WAYS + stands;
         }
 
-        private void reckonWorthsFrom(int spring) {
+        private void reckonWorths(int spring) {
             Village v = now.village;
-            for (int s = worthsFrom - 1; s >= spring; s--) {
-                for (int sort = 0; sort < v.sorts; sort++) {
-                    for (int age = 0; age < v.life; age++) {
-                        for (int w = 0; w < v.ways; w++) {
-                            worths[at(s, sort, age, v.way[w])] = v.worthOf(sort, v.way[w], age, s);
-                        }
+            for (int sort = 0; sort < v.sorts; sort++) {
+                for (int age = 0; age < v.life; age++) {
+                    int from = at(spring, sort, age, 0);
+                    for (int w = 0; w < v.ways; w++) {
+                        worths[from + v.way[w]] = v.worthOf(sort, v.way[w], age, spring);
                     }
                 }
             }
-            worthsFrom = Math.min(worthsFrom, spring);
         }
 
-        private void solveFrom(int spring) {
-            if (spring >= solvedFrom) {
-                return;
-            }
-            reckonWorthsFrom(spring);
-            for (int s = solvedFrom - 1; s >= spring; s--) {
-                for (int sort = 0; sort < now.village.sorts; sort++) {
-                    sumUp(s, sort);
-                    choose(s, sort);
-                }
-            }
-            solvedFrom = spring;
-        }
-
-        private void sumUp(int spring, int sort) {
+        private void sumUp(int spring) {
             Village v = now.village;
-            for (int age = 0; age < v.life; age++) {
-                boolean goesOn = age + 1 < v.life && spring + 1 < v.springs;
-                int from = at(spring, sort, age, 0);
-                int next = goesOn ? at(spring + 1, sort, age + 1, 0) : 0;
-                for (int w = 0; w < v.ways; w++) {
-                    int stands = v.way[w];
-                    long later = goesOn ? likelyLater(spring + 1, stands, next) : 0L;
-                    sums[from + stands] = worths[from + stands] * UNIT + later;
+            for (int sort = 0; sort < v.sorts; sort++) {
+                for (int age = 0; age < v.life; age++) {
+                    boolean goesOn = age + 1 < v.life && spring + 1 < v.springs;
+                    int from = at(spring, sort, age, 0);
+                    int next = goesOn ? at(spring + 1, sort, age + 1, 0) : 0;
+                    for (int w = 0; w < v.ways; w++) {
+                        int stands = v.way[w];
+                        long later = goesOn ? likelyLater(spring + 1, stands, next) : 0L;
+                        sums[from + stands] = worths[from + stands] * UNIT + later;
+                    }
                 }
             }
         }
@@ -1588,30 +1665,29 @@ public final class LastWord {
             return later / SIX;
         }
 
-        private void choose(int spring, int sort) {
+        private void choose(int spring) {
             Village v = now.village;
             for (int w = 0; w < v.ways; w++) {
                 int stands = v.way[w];
-                int then = now.isPledged(spring) ? now.standsAsPledged(spring, stands)
-                        : bestAct(spring, stands, sums, at(spring, sort, 0, 0));
-                choices[choiceAt(spring, sort, stands)] = then;
+                boolean pledged = now.isPledged(spring);
+                int asPledged = now.standsIfDone(spring, stands, now.pledgeThing[spring], now.pledgeState[spring]);
+                now.gatherActs(spring, stands);
+                for (int sort = 0; sort < v.sorts; sort++) {
+                    int then = pledged ? asPledged : bestAct(sums, at(spring, sort, 0, 0));
+                    choices[choiceAt(spring, sort, stands)] = then;
+                }
             }
         }
 
-        private int bestAct(int spring, int stands, long[] scored, int from) {
-            Village v = now.village;
-            int best = stands;
-            long most = scored[from + stands];
-            for (int thing = 0; thing < v.things; thing++) {
-                for (int state = 0; state < v.states[thing]; state++) {
-                    int then = Village.changed(stands, thing, state);
-                    if (then != stands && now.allows(spring, stands, thing, state)) {
-                        long got = scored[from + then] - v.cost[thing] * UNIT;
-                        if (got > most) {
-                            most = got;
-                            best = then;
-                        }
-                    }
+        /** The first of the gathered acts by which what is scored, less what it costs, is the greatest. */
+        private int bestAct(long[] scored, int from) {
+            int best = now.acts[0];
+            long most = scored[from + best];
+            for (int act = 1; act < now.actCount; act++) {
+                long got = scored[from + now.acts[act]] - now.actCosts[act] * UNIT;
+                if (got > most) {
+                    most = got;
+                    best = now.acts[act];
                 }
             }
             return best;
@@ -1644,7 +1720,11 @@ public final class LastWord {
             odds[now.village.startStands()] = WHOLE;
             stirred = 0;
             for (int s = 0; s < spring; s++) {
-                pass(s);
+                Arrays.fill(later, 0L);
+                for (int stands = 0; stands < MOST_WAYS; stands++) {
+                    spread(s, stands, odds[stands] / SIX);
+                }
+                System.arraycopy(later, 0, odds, 0, MOST_WAYS);
             }
         }
 
@@ -1657,16 +1737,6 @@ public final class LastWord {
                 }
             }
             return hopes;
-        }
-
-        private void pass(int spring) {
-            Arrays.fill(later, 0L);
-            for (int stands = 0; stands < MOST_WAYS; stands++) {
-                if (odds[stands] > 0) {
-                    spread(spring, stands, odds[stands] / SIX);
-                }
-            }
-            System.arraycopy(later, 0, odds, 0, MOST_WAYS);
         }
 
         private void spread(int spring, int stands, long sixth) {
@@ -1701,6 +1771,7 @@ public final class LastWord {
         }
 
         void run(int seed, int rule) {
+            plan.solveFrom(0);
             g = seed;
             costs = 0;
             int stands = now.village.startStands();
@@ -1828,7 +1899,7 @@ public final class LastWord {
 
         private int answer(int spring, int rule, int stands) {
             if (now.isPledged(spring)) {
-                return now.standsAsPledged(spring, stands);
+                return now.standsIfDone(spring, stands, now.pledgeThing[spring], now.pledgeState[spring]);
             }
             if (rule == AHEAD) {
                 return plan.choiceOf(spring, came[spring], stands);
@@ -1841,13 +1912,13 @@ public final class LastWord {
         }
 
         private int answerOfAll(int spring, int stands) {
-            plan.clearScores();
+            plan.beginScores(spring, stands);
             for (int age = 0; age < now.village.life; age++) {
                 if (cameIn(spring - age) != NONE) {
                     plan.addScores(spring, came[spring - age], age);
                 }
             }
-            return plan.bestByScores(spring, stands);
+            return plan.bestByScores();
         }
 
         private void pay(int since, int rule, int cost) {
@@ -1990,29 +2061,6 @@ public final class LastWord {
                 sort = offeredSort;
                 age = offeredAge;
             }
-        }
-    }
-
-    /** A fraction in lowest terms. */
-    private static final class Ratio {
-        /** what 0: above, else below. */
-        long part(long above, long below, int what) {
-            long divisor = greatestDivisor(Math.abs(above), below);
-            if (divisor < 1) {
-                return 0;
-            }
-            return what == 0 ? above / divisor : below / divisor;
-        }
-
-        private static long greatestDivisor(long a, long b) {
-            long x = a;
-            long y = b;
-            for (int i = 0; i < 200 && y != 0; i++) {
-                long rest = x % y;
-                x = y;
-                y = rest;
-            }
-            return x;
         }
     }
 }
