@@ -627,7 +627,7 @@ public final class LastWord {
     }
 
     private void setQuestions(int n, int row) {
-        int base = now.village.things + 1;
+        int base = Math.max(1, now.village.things + 1);
         int rest = row;
         for (int spring = n - 1; spring >= 0; spring--) {
             setQuestion(spring, rest % base - 1);
@@ -687,7 +687,7 @@ public final class LastWord {
         static final int TIMES = 11;
         static final int KINDS = 16;
 
-        /** Six depths with four operands waiting in each, and one more, are the most. */
+        /** Five depths with four operands waiting in each, and one more, are the most: 21. */
         static final int MOST_WAITING = 32;
 
         private final int[] steps;

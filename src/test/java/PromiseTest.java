@@ -171,6 +171,11 @@ public final class PromiseTest {
         fault("life 2 ; abcdefghi ;", 1, 9);
         fault("liFe 2 ;", 1, 0);
         fault("thing aB", 1, 7);
+        String cost = " states 2 start 0 cost 0 ; ";
+        fine("thing ab" + cost + "thing ba" + cost + "thing aab" + cost + "sort abab worth ba ; chance abab 6 ;");
+        fine("thing baaaaaaa" + cost + "thing aaaaaaaa" + cost + "thing aaaaaaa" + cost);
+        faultAtLast("thing zzzzzzzz" + cost + "thing yzzzzzzz" + cost + "thing zzzzzzzz", 3);
+        faultAtLast("thing zzzzzzzz" + cost + "bar zzzzzzz", 2);
     }
 
     private static void faultsOfFormulas() {
@@ -200,6 +205,23 @@ public final class PromiseTest {
         faultAtLast("bar ( ( ( ( ( x", 2);
         faultAtLast("bar ( ( ( ( ( age", 1);
         faultAtLast("bar ( ( ( ( ( )", 1);
+    }
+
+    private static void fullTape() {
+        StringBuilder text = new StringBuilder("sort k worth 0");
+        while (text.length() < 981) {
+            text.append("+1");
+        }
+        text.append("; chance k 6 ;  ");
+        due("length of the text", text.length(), 998);
+        fine(text + "\n ");
+        fault(text + " ;", 1, 999);
+        fault(text + ";b", 1, 998);
+        fault(text + ";;;;", 1, 998);
+        fault(text.toString().replace("6 ;", "5 ;") + "  ", 6, 1000);
+        fault(text.toString().replace("6 ;", "6  ") + "  ", 1, 1000);
+        LastWord x = Tape.of(text.toString());
+        due("worth", x.worth(0, 0, 0, 0), 484);
     }
 
     private static void villageStays() {
@@ -232,6 +254,7 @@ public final class PromiseTest {
         faultsOfChances();
         faultsOfTokens();
         faultsOfFormulas();
+        fullTape();
         villageStays();
     }
 
@@ -265,6 +288,9 @@ public final class PromiseTest {
         due("not 7", worthOf("not 7", 0, 0), 0);
         due("not not b", worthOf("not not b", 0, 0), 1);
         due("100 * age + spring", worthOf("100 * age + spring", 5, 15), 515);
+        String deep = "7 or 0 - 9 < 2 + 3 * ( ";
+        due("as deep as may be", worthOf(deep + deep + deep + deep + "9 - 5 = 2 + 2 * 1 ) ) ) )", 0, 0), 1);
+        due("as deep as may be", worthOf("2 + 2 * ( 2 + 2 * ( 2 + 2 * ( 2 + 2 * ( 1 ) ) ) )", 0, 0), 46);
         due("9999 + 1", worthOf("9999 + 1", 0, 0), 9999);
         due("0 - 9999 - 1", worthOf("0 - 9999 - 1", 0, 0), -9999);
         due("4096 * 4096 * 256 + 7", worthOf("4096 * 4096 * 256 + 7", 0, 0), 7);
