@@ -2036,10 +2036,10 @@ public final class LastWord {
             return now.allows(spring, stands, thing, state) ? 0 : 4;
         }
 
-        /** That nobody came is ruled out by the document only where somebody is told. */
+        /** Where nothing is told somebody comes: nobody can come only where that is told. */
         private boolean couldCome(int spring, int sort) {
             if (sort == NONE) {
-                return now.village.comes[spring] < 0;
+                return now.village.comes[spring] == NONE;
             }
             return now.village.hasSort(sort) && now.village.chanceIn(spring, sort) > 0;
         }

@@ -803,7 +803,7 @@ final class Model {
         if (i >= springs) {
             return 1;
         }
-        if (k == -1 ? comes[i] >= 0 : !isSort(k) || chance(i, k) == 0) {
+        if (k == -1 ? comes[i] != -1 : !isSort(k) || chance(i, k) == 0) {
             return 2;
         }
         if (t != -1 && (k == -1 || !isState(t, v))) {

@@ -128,7 +128,8 @@ public final class ModelTest {
                 break;
             default:
                 int after = m.rows.size();
-                int came = after < 16 && m.comes[after] != Model.UNTOLD && random.nextInt(6) > 0 ? m.comes[after] : k;
+                int drawn = random.nextInt(8) == 0 ? -1 : k;
+                int came = after < 16 && m.comes[after] != Model.UNTOLD && random.nextInt(6) > 0 ? m.comes[after] : drawn;
                 int act = came == -1 && random.nextInt(6) > 0 ? -1 : t;
                 same("row(" + came + ", " + act + ", " + v + ")", () -> x.row(came, act, v), () -> m.row(came, act, v));
                 break;

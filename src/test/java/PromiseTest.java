@@ -870,9 +870,17 @@ public final class PromiseTest {
         none("what -1", () -> x.judged(-1));
         LastWord y = Tape.of(TUG.replace("kim 3", "kim 6").replace("lee 3", "lee 0"));
         due("its chance is 0", judge(y, 1, 1, -1, 0), 2);
-        due("where nothing is told the document rules nobody out nowhere", judge(y, 1, -1, -1, 0), 0);
-        due("but it is not likely", judge(y, 4, -1, -1, 0), 0);
-        due("but it is not likely", judge(y, 5, -1, -1, 0), 1);
+        due("where nothing is told somebody comes", judge(y, 0, -1, -1, 0), 0);
+        due("where nothing is told somebody comes", judge(y, 1, -1, -1, 0), 2);
+        due("also ahead of what was done", judge(y, 1, -1, 0, 0), 2);
+        due("also ahead of a thing that is none", judge(y, 1, -1, 7, 7), 2);
+        due("how likely the rows ahead of it were, none", judge(y, 4, -1, -1, 0), 1);
+        int[] untoldBehind = {1, -1, 0, -1, -1, 0, 1, -1, 0, -1, -1, 0};
+        long[] ahead = {3, 2, 0, judge(x, 3, 1, -1, 0, -1, -1, 0, 1, -1, 0), 1, 2};
+        for (int what = 0; what < 6; what++) {
+            due("nobody untold behind nobody told, judged(" + what + ")", judge(x, what, untoldBehind), ahead[what]);
+        }
+        none("nobody untold is not among those that can be", () -> x.rowFares(3, false));
         LastWord z = Tape.of("springs 3 ;");
         none("no sort", () -> z.judged(0));
     }
