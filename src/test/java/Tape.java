@@ -25,6 +25,15 @@ final class Tape {
         return x;
     }
 
+    /** A long of eight bytes, the highest first. */
+    static long bytes(int... bytes) {
+        long all = 0;
+        for (int b : bytes) {
+            all = all << 8 | b & 255;
+        }
+        return all;
+    }
+
     private static long packed(String text, int from) {
         long bytes = 0;
         for (int i = from; i < from + 8; i++) {
