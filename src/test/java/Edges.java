@@ -11,6 +11,10 @@ abstract class Edges {
     static final int MOST = Integer.MAX_VALUE;
     static final int LEAST = Integer.MIN_VALUE;
 
+    /** Two who want the one thing each her own way. */
+    static final String TUG = "thing a states 2 start 0 cost 3 ; sort kim worth 5 * a ; chance kim 3 ;"
+            + " sort lee worth 5 - 5 * a ; chance lee 3 ; life 2 ; springs 4 ;";
+
     private static final int FULL = 1000;
 
     private static String sentence = "";

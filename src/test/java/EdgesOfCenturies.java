@@ -6,10 +6,6 @@ final class EdgesOfCenturies extends Edges {
     private static final String B = "thing b states 2 start 0 cost 0 ; ";
     private static final String C = "thing c states 2 start 0 cost 0 ; ";
 
-    /** Two who want the one thing each her own way. */
-    private static final String TUG = "thing a states 2 start 0 cost 3 ; sort kim worth 5 * a ; chance kim 3 ;"
-            + " sort lee worth 5 - 5 * a ; chance lee 3 ; life 2 ; springs 4 ;";
-
     /** One who came in the first of three springs, and nobody then. */
     private static final String ALONE = "sort kim worth 5 * a ; chance kim 6 ; spring 0 is kim ; spring 1 is nobody ;"
             + " spring 2 is nobody ; life 2 ; springs 3 ;";
@@ -264,6 +260,8 @@ final class EdgesOfCenturies extends Edges {
         span("bestRule", 1, 12, NONE, x::bestRule);
         LastWord same = Tape.of("sort kim worth 1 ; chance kim 6 ;");
         due("of equal ones", same.bestRule(12), 0);
+        due("of equal ones of nothing", Tape.of("sort kim worth 0 ; chance kim 6 ;").bestRule(1), 0);
+        due("of equal ones below 0", Tape.of("sort kim worth 0 - 1 ; chance kim 6 ;").bestRule(12), 0);
         int differ = 0;
         for (int lee = 1; lee < 6; lee++) {
             LastWord y = Tape.of(TUG.replace("chance kim 3", "chance kim " + (6 - lee)).replace("lee 3", "lee " + lee)
@@ -293,6 +291,10 @@ final class EdgesOfCenturies extends Edges {
         due("one or two of three", x.brought(2), 6);
         due("one, two or three of three", x.brought(3), 7);
         due("no THING", Tape.of("sort kim worth 1 ; chance kim 6 ; spring 0 is kim ;").brought(1), 1);
+        LastWord four = Tape.of(THREE.replace("springs 3", "springs 4 ; spring 3 is kim"));
+        span("brought, four are told", 1, 3, NONE, four::brought);
+        span("rowFor, four are told", 1, 3, NONE, n -> four.rowFor(n, 9));
+        span("bestRow, four are told", 1, 3, NONE, n -> four.bestRow(n, 0));
     }
 
     @Edge(of = "==== 5.", says = "if who COMES in them is told (or nobody)")
@@ -325,9 +327,11 @@ final class EdgesOfCenturies extends Edges {
     @Edge(of = "==== 5.", says = "by which row the VALUE of one of a sort in SPRING 0 (as if she was asked there) is the greatest, of"
             + " equal ones the first")
     static void bestRowOfEqualOnes() {
-        LastWord x = Tape.of(THREE + " sort lee worth 7 ;");
+        LastWord x = Tape.of(THREE + " sort lee worth 7 ; sort ann worth 0 ; sort pat worth 0 - 7 ;");
         due("any is as good as the third", x.bestRow(3, 0), 0);
-        due("all the same to lee, who can't come", x.bestRow(3, 1), 0);
+        for (int sort = 1; sort < 4; sort++) {
+            due("all the same to her, who can't come", x.bestRow(3, sort), 0);
+        }
         LastWord y = Tape.of(THREE.replace("spring 0 is kim", "sort lee worth 9 * b ; spring 0 is nobody")
                 .replace("life 1", "life 2"));
         due("as if she was asked there, though nobody comes: 18 at once", y.bestRow(3, 1), 0);
@@ -348,6 +352,8 @@ final class EdgesOfCenturies extends Edges {
             }
             x.stone(0, mark % 2 == 1);
             due("laid", x.mark(mark, false), true);
+            x.clear();
+            x.row(7, 7, 7);
         }
         Tape.village(x, "");
         for (int mark = 3; mark >= 0; mark--) {
@@ -357,6 +363,43 @@ final class EdgesOfCenturies extends Edges {
             due("QUESTIONS", x.count(9), mark + 1);
             due("the ROW", x.count(11), mark + 1);
             due("of stone", x.thing(0, 3), mark % 2);
+        }
+    }
+
+    @Edge(of = "==== 5.", says = "as they are")
+    static void whatMarksHold() {
+        LastWord x = Tape.of(TUG);
+        x.mark(1, false);
+        x.ask(3, 0);
+        x.pledge(2, 0, 1);
+        x.stone(0, true);
+        x.row(0, 0, 1);
+        x.row(1, -1, 0);
+        x.mark(2, false);
+        x.ask(3, -1);
+        x.pledge(2, 0, 0);
+        x.stone(0, false);
+        x.clear();
+        x.row(1, -1, 0);
+        x.row(-1, 0, 0);
+        due("the PLEDGE", x.chooses(2, 0, 1, true), 0);
+        due("the ROW", x.judged(0), 1);
+        due("of wood", x.may(0, 1, 0, 0), 1);
+        for (int i = 0; i < 2; i++) {
+            x.mark(2, true);
+            due("the PLEDGE that was laid", x.chooses(2, 0, 0, true), 1);
+            due("the PLEDGE that was laid, known ahead", x.value(1, 0, 0, 0), 7);
+            due("the ROW that was laid", x.judged(0), NONE);
+            due("the ROW that was laid, who came", x.judged(3), 2);
+            due("the ROW that was laid, what she did", x.judged(2), 1);
+            due("of stone", x.may(0, 1, 0, 0), 0);
+            due("the QUESTION", x.count(9), 1);
+            x.mark(1, true);
+            due("nothing is pledged", x.chooses(2, 1, 0, true), 0);
+            part("nothing is pledged, known ahead", w -> x.value(1, 0, 0, w), 9, 2);
+            due("the ROW is empty", x.count(11), 0);
+            due("of wood again", x.may(0, 1, 0, 0), 1);
+            due("any again", x.count(9), 0);
         }
     }
 
@@ -535,6 +578,7 @@ final class EdgesOfCenturies extends Edges {
         none("no chance", () -> Tape.of(text).when(1, 0));
         due("of equal ones the first", Tape.of(text.replace("worth spring", "worth 1")).when(0, 0), 0);
         due("the least of all below 0", Tape.of(text.replace("worth spring", "worth 0 - 1 - spring")).when(0, 1), -1);
+        due("the least chance there is", Tape.of(text.replace("kim 6", "kim 1 ; sort ann worth 0 ; chance ann 5")).when(0, 0), 6);
         due("not behind the last SPRING", Tape.of(text.replace("springs 16", "springs 3")).when(0, 0), 2);
     }
 }

@@ -6,9 +6,6 @@ import java.util.NoSuchElementException;
 
 /** The edges of promises 1, 4 to 14 and 30 to 36, and of the face. */
 final class EdgesOfPromises extends Edges {
-    /** Two who want the one thing each her own way. */
-    private static final String TUG = "thing a states 2 start 0 cost 3 ; sort kim worth 5 * a ; chance kim 3 ;"
-            + " sort lee worth 5 - 5 * a ; chance lee 3 ; life 2 ; springs 4 ;";
     /** Two things, of 3 and 2 states, two sorts, three springs, and what can't be. */
     private static final String TWO = "thing a states 3 start 1 cost 7 stone ; thing b states 2 start 0 cost 999 ;"
             + " bar a = 2 and b = 1 ; sort kim worth a ; chance kim 6 ; sort lee worth b ; life 2 ; springs 3 ;";
@@ -25,20 +22,18 @@ final class EdgesOfPromises extends Edges {
 
     // ---- the face
 
-    /** All edges for the first and for any other argument, so that each meets each. */
+    /** Each two of the arguments at each two edges, the others 0. */
     private static void callWithEdges(Method method, String text) throws IllegalAccessException {
         int[] edges = {LEAST, -2, -1, 0, 1, 3, 6, 15, 16, 27, 9999, 10000, MOST};
         int count = method.getParameterCount();
-        for (int one = 0; one < count; one++) {
+        for (int pair = 0; pair < count * count; pair++) {
             LastWord x = Tape.of(text);
-            for (int other = 0; other < count; other++) {
-                for (int i = 0; i < edges.length * edges.length && x != null; i++) {
-                    Object[] arguments = new Object[count];
-                    Arrays.fill(arguments, 0);
-                    arguments[one] = edges[i / edges.length];
-                    arguments[other] = edges[i % edges.length];
-                    callWild(i % 100 == 0 ? x = Tape.of(text) : x, method, arguments);
-                }
+            for (int i = 0; i < edges.length * edges.length; i++) {
+                Object[] arguments = new Object[count];
+                Arrays.fill(arguments, 0);
+                arguments[pair / count] = edges[i / edges.length];
+                arguments[pair % count] = edges[i % edges.length];
+                callWild(x, method, arguments);
             }
         }
     }
@@ -464,6 +459,7 @@ final class EdgesOfPromises extends Edges {
             full.row(0, -1, 0);
         }
         span("sixteen", 0, 15, THROWS, s -> full.rowFares(s, false));
+        span("sixteen, LOSS", 0, 15, THROWS, s -> full.rowFares(s, true));
         LastWord none = Tape.of(THING + "spring 0 is nobody ;");
         none.row(-1, -1, 0);
         none("no sort", () -> none.rowFares(0, false));

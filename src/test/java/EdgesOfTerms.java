@@ -1,9 +1,5 @@
 /** The edges of ==== 2. and ==== 3.: how it stands, who comes and what she may do, what is chosen and what that is worth. */
 final class EdgesOfTerms extends Edges {
-    /** Two who want the one thing each her own way. */
-    private static final String TUG = "thing a states 2 start 0 cost 3 ; sort kim worth 5 * a ; chance kim 3 ;"
-            + " sort lee worth 5 - 5 * a ; chance lee 3 ; life 2 ; springs 4 ;";
-
     /** Who comes does not care, so that nobody changes anything; the others would like a at 1. */
     private static final String CARELESS = "sort kim worth 0 ; sort lee worth a ; sort ann worth a ; chance kim 6 ;"
             + " life 6 ; springs 16 ;";
@@ -105,6 +101,21 @@ final class EdgesOfTerms extends Edges {
         due("THE SAME, though all is barred", y.price(0, 0, 1, 1, 0), 0);
     }
 
+    @Edge(of = "==== 2.", says = "bring one THING to another state")
+    static void everyActThereIs() {
+        String things = thing("a", 3, 0, 0) + thing("b", 3, 0, 0) + thing("c", 3, 0, 0);
+        int[] acts = {0, 1, 2, 3, 6, 9, 18};
+        for (int then : acts) {
+            LastWord x = Tape.of(things + "sort k worth a + 3 * b + 9 * c = " + then + " ; chance k 6 ; life 1 ;"
+                    + " sort l worth 0 ;");
+            due("ahead to " + then, x.chooses(0, 0, then == 0 ? 18 : 0, true), then);
+            due("plain to " + then, x.chooses(0, 0, then == 0 ? 18 : 0, false), then);
+            due("the price of " + then, x.price(0, 1, 0, then, 0), 0);
+        }
+        LastWord x = Tape.of(things + "sort k worth 0 ; sort l worth a + 3 * b + 9 * c = 18 ; chance k 6 ;");
+        due("the last of seven as a PRESENT", x.present(0, 0, 0, 0), 18);
+    }
+
     @Edge(of = "==== 2.", says = "if the QUESTION of the SPRING is that THING or any (at first)")
     static void theQuestion() {
         LastWord x = Tape.of(thing("a", 2, 0, 0) + thing("b", 2, 0, 0) + thing("c", 2, 0, 0));
@@ -177,6 +188,10 @@ final class EdgesOfTerms extends Edges {
         }
         x.ask(0, 1);
         due("of the THING in QUESTION", x.chooses(0, 0, 0, true), 3);
+        LastWord y = Tape.of(thing("a", 3, 0, 0) + thing("b", 3, 0, 0) + "sort k worth 7 ; chance k 6 ; sort l worth 0 - 7 ;");
+        for (int i = 0; i < 4; i++) {
+            due("THE SAME, if it is all the same to her", y.chooses(0, i / 2, 4, i % 2 == 0), 4);
+        }
     }
 
     @Edge(of = "==== 3.", says = "PLAIN: as if all stood so then for good")
@@ -249,6 +264,9 @@ final class EdgesOfTerms extends Edges {
             part("it stands as at the start", w -> x.odds(spring, 1, w), above, below);
             part("it does not", w -> x.odds(spring, 0, w), below - above, below);
         }
+        LastWord least = Tape.of(thing("a", 2, 0, 0) + "sort kim worth 0 ; chance kim 1 ; sort lee worth a ; chance lee 5 ;"
+                + " life 1 ; springs 7 ;");
+        part("the least odds there are: kim came seven times", w -> least.odds(6, 0, w), 1, 279936);
         LastWord few = Tape.of(TUG);
         span("odds, 4 springs", 0, 3, THROWS, s -> few.odds(s, 0, 0));
     }
@@ -281,6 +299,9 @@ final class EdgesOfTerms extends Edges {
         due("l comes in the first", Tape.of(text + "springs 16 ; spring 0 is l ;").settled(0), 0);
         due("l comes in the last", Tape.of(text + "springs 16 ; spring 15 is l ;").settled(0), 0);
         due("l comes behind the last", Tape.of(text + "springs 15 ; spring 15 is l ;").settled(0), 1);
+        String one = text.replace("chance k 6", "chance k 5").replace("life 1", "chance l 1 ; life 1");
+        due("l has the least chance there is", Tape.of(one).settled(0), 0);
+        due("four sorts", Tape.of(text + "sort m worth 0 ; sort n worth 0 ;").settled(0), 1);
         due("l keeps it", Tape.of(text + "springs 15 ; spring 15 is l ;").settled(1), 1);
         LastWord x = Tape.of(text + "springs 2 ; spring 0 is nobody ;");
         x.pledge(0, 0, 1);
@@ -389,6 +410,18 @@ final class EdgesOfTerms extends Edges {
         x.ask(15, 1);
         part("whatever is asked now", w -> x.order(0, 1, 14, 0, 0, w), -1, 1);
         due("which stays", x.may(14, 0, 0, 1) * 10 + x.may(15, 0, 0, 1), 0);
+        LastWord y = Tape.of(thing("a", 2, 0, 0) + thing("b", 2, 0, 0) + thing("c", 2, 0, 0)
+                + "sort k worth a + 10 * b + 100 * c ; chance k 6 ; life 2 ; springs 2 ;");
+        long[][] differs = {{0, -9, -99}, {9, 0, -90}, {99, 90, 0}};
+        for (int asked = 0; asked < 9; asked++) {
+            y.ask(0, asked / 3);
+            y.ask(1, asked % 3);
+            for (int pair = 1; pair < 8; pair++) {
+                if (pair / 3 != pair % 3) {
+                    due(pair / 3 + " and " + pair % 3, y.order(pair / 3, pair % 3, 0, 0, 0, 0), differs[pair / 3][pair % 3]);
+                }
+            }
+        }
     }
 
     @Edge(of = "==== 3.", says = "HOPES of a sort for a SPRING (0 to 6): by the ODDS of HOW IT STANDS ahead of it her likely"

@@ -66,6 +66,10 @@ final class EdgesOfText extends Edges {
         due("and from the first place", Tape.village(x, "7"), 4 + 16 * 5);
         due("an empty one is read as a village of nothing", x.village(), 0);
         due("life", x.count(3), 4);
+        Tape.village(x, "springs 1666 ; life");
+        due("what was on it is not read again: a NUMBER", Tape.village(x, "springs 1"), 1 + 16 * 9);
+        due("what was on it is not read again: a WORD", Tape.village(x, "spring"), 1 + 16 * 6);
+        due("what was on it is not read again: a sign", Tape.village(x, "springs 16 "), 1 + 16 * 11);
     }
 
     // ---- the tokens
@@ -174,6 +178,9 @@ final class EdgesOfText extends Edges {
             for (int i = 0; i < tokens.length; i++) {
                 fault(1, ahead + "@) " + (i + 1 < tokens.length ? tokens[i + 1] : ""));
                 fault(1, ahead + tokens[i] + " @" + tokens[i]);
+                if (i > 0) {
+                    fault(1, ahead + "@springs 3 ;");
+                }
                 ahead += tokens[i] + " ";
                 if (i + 1 < tokens.length) {
                     fault(1, ahead + "@");
@@ -211,6 +218,9 @@ final class EdgesOfText extends Edges {
         fault(3, A + B + C + "sort @c worth 1 ;");
         fault(3, FOUR_SORTS + "thing @n states 2 start 0 cost 0 ;");
         fine(A + "thing aa states 2 start 0 cost 0 ; sort aaa worth a ; sort aaaa worth aa ; chance aaaa 6 ;");
+        fine(B + "thing bb states 2 start 0 cost 0 ; sort bbbbbbbb worth b ; sort bbbbbbb worth bb ; chance bbbbbbb 6 ;");
+        fine("thing ab states 2 start 0 cost 0 ; thing ba states 2 start 0 cost 0 ; sort abc worth ba ; sort bca worth ab ;"
+                + " sort bac worth 1 ; chance bac 6 ;");
     }
 
     @Edge(of = "==== 1.", says = "THINGS, 3 at most, numbered as told")
@@ -484,6 +494,8 @@ final class EdgesOfText extends Edges {
         fault(6, K + "\n  @");
         fault(1, blanks(999) + "@;");
         fault(1, blanks(995) + "thing@");
+        fault(1, blanks(994) + "life 2@");
+        fault(4, blanks(994) + "life @7");
         fault(6, K + blanks(1000 - K.length()) + "@");
     }
 

@@ -1,8 +1,5 @@
 /** The edges of promises 15 to 29: prices and presents, hopes and vows, centuries, what questions bring about. */
 final class EdgesOfWeighing extends Edges {
-    /** Two who want the one thing each her own way. */
-    private static final String TUG = "thing a states 2 start 0 cost 3 ; sort kim worth 5 * a ; chance kim 3 ;"
-            + " sort lee worth 5 - 5 * a ; chance lee 3 ; life 2 ; springs 4 ;";
     /** Two things of 2 and 3 states: not all numbers between can be. */
     private static final String GAPS = "thing a states 2 start 0 cost 1 ; thing b states 3 start 0 cost 1 ;"
             + " sort kim worth a + b ; chance kim 6 ; sort lee worth 3 - a ; life 3 ; springs 16 ;";
@@ -44,7 +41,8 @@ final class EdgesOfWeighing extends Edges {
     static void priceOfWhatMayNotBeDone() {
         LastWord x = Tape.of(GAPS + " bar a = 1 and b = 2 ;");
         none("barred", () -> x.price(0, 0, 1, 7, 0));
-        part("barred, the same", w -> x.price(0, 1, 7, 1, w), x.price(0, 1, 7, 1, 0), x.price(0, 1, 7, 1, 1));
+        answered("out of what is barred", 1, THROWS, h -> x.price(0, 0, 7, h, 0));
+        answered("barred, the same", 7, THROWS, h -> x.price(0, 0, 7, h, 0));
         none("two at once", () -> x.price(0, 0, 0, 4, 0));
         x.ask(0, 1);
         none("another QUESTION", () -> x.price(0, 0, 0, 1, 0));
@@ -144,6 +142,15 @@ final class EdgesOfWeighing extends Edges {
         }
     }
 
+    @Edge(of = "==== 3.", says = "LETS: GAIN less PRICE")
+    static void eachAsTheFirstCall() {
+        part("PRICE", w -> Tape.of(TUG).price(2, 0, 0, 0, w), 2, 1);
+        part("GAIN", w -> Tape.of(TUG).gain(2, 0, 0, 0, 1, 1, w), 5, 1);
+        part("LETS", w -> Tape.of(TUG).lets(2, 0, 0, 0, 1, 1, w), 3, 1);
+        part("LETS of PRESENT", w -> Tape.of(TUG).present(2, 0, 0, w + 3), 3, 1);
+        part("LETS of another, below 0", w -> Tape.of(TUG).lets(2, 0, 0, 0, 0, 1, w), -7, 1);
+    }
+
     // ---- promises 19 to 22
 
     @Edge(of = "Promise 19", says = "HOPES, what 0: above, 1: below. NoSuchElementException: others, no such SPRING")
@@ -220,31 +227,35 @@ final class EdgesOfWeighing extends Edges {
 
     @Edge(of = "==== 3.", says = "VOW: the PLEDGE of that SPRING (instead of what is pledged)")
     static void whatOnlyLooksChangesNothing() {
+        for (int i = 0; i < 8; i++) {
+            whatOnlyLooks(i / 4 * 99, i / 2 % 2, i % 2);
+        }
+    }
+
+    private static void whatOnlyLooks(int b, int first, int third) {
         LastWord x = Tape.of(GAPS + " spring 0 is kim ; spring 1 is nobody ; spring 2 is lee ;");
-        x.ask(0, 1);
-        x.ask(2, 0);
+        x.ask(0, first);
+        x.ask(2, third);
         x.pledge(1, 1, 2);
         x.stone(1, true);
         long due = looksOf(x);
-        for (int bad = 0; bad < 2; bad++) {
-            int b = bad * 99;
-            answer(() -> x.vow(0, 0, b));
-            answer(() -> x.vow(1, 1, b));
-            due("behind vow", looksOf(x), due);
-            answer(() -> x.bind(0, 0, 0, 0, b));
-            answer(() -> x.bind(1, 0, 0, 0, b));
-            due("behind bind", looksOf(x), due);
-            answer(() -> x.order(0, 1, 0, 0, 0, b));
-            answer(() -> x.order(1, 0, 1, 0, 0, b));
-            due("behind order", looksOf(x), due);
-            x.brought(3 + b);
-            x.rowFor(3 + b, 1);
-            x.rowFor(2, b);
-            x.bestRow(3, b);
-            due("behind brought, rowFor, bestRow", looksOf(x), due);
-            x.bestRule(12 + b);
-            due("behind bestRule", looksOf(x), due);
-        }
+        answer(() -> x.bestRow(3, b));
+        due("behind bestRow", looksOf(x), due);
+        answer(() -> x.vow(0, 0, b));
+        answer(() -> x.vow(1, 1, b));
+        due("behind vow", looksOf(x), due);
+        answer(() -> x.bind(0, 0, 0, 0, b));
+        answer(() -> x.bind(1, 0, 0, 0, b));
+        due("behind bind", looksOf(x), due);
+        answer(() -> x.order(0, 1, 0, 0, 0, b));
+        answer(() -> x.order(1, 0, 1, 0, 0, b));
+        due("behind order", looksOf(x), due);
+        x.brought(3 + b);
+        x.rowFor(3 + b, 1);
+        x.rowFor(2, b);
+        due("behind brought, rowFor", looksOf(x), due);
+        x.bestRule(12 + b);
+        due("behind bestRule", looksOf(x), due);
     }
 
     // ---- promises 23 to 26

@@ -29,11 +29,11 @@ public final class WildTest {
                 .sorted(Comparator.comparing(Method::getName)).toArray(Method[]::new);
         int wrong = 0;
         int calls = 0;
-        for (int seed = 0; seed < 300; seed++) {
+        for (int seed = 0; seed < 600; seed++) {
             Random random = new Random(seed);
             VillageTexts texts = new VillageTexts(random);
             LastWord x = new LastWord();
-            for (int i = 0; i < 400; i++) {
+            for (int i = 0; i < 200; i++) {
                 if (random.nextInt(60) == 0) {
                     x.village();
                     Tape.village(x, random.nextInt(4) == 0 ? texts.spoilt() : texts.whole(random.nextInt(6) == 0));
