@@ -466,6 +466,7 @@ final class EdgesOfText extends Edges {
         comes("5 and 0", 0);
         comes("( 0 - 1 ) and ( 0 - 2 )", 1);
         comes("0 or 7", 1);
+        comes("7 or 0", 1);
         comes("0 or 0 - 7", 1);
         comes("0 or 0", 0);
         comes("( 5 = 5 ) + ( 1 < 2 ) + ( 2 < 1 )", 2);
